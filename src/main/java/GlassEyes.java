@@ -449,7 +449,7 @@ public final class GlassEyes {
     }
 
     private boolean isSeen(Court court, int eye, int thing, int who) {
-        if (now.ruling == NONE) {
+        if (!isText(now.ruling)) {
             return true;
         }
         Script law = scripts[now.ruling];
@@ -462,7 +462,7 @@ public final class GlassEyes {
     }
 
     private int rubsOf(int eye) {
-        if (now.ruling == NONE) {
+        if (!isText(now.ruling)) {
             return 1;
         }
         Script law = scripts[now.ruling];
@@ -895,7 +895,7 @@ public final class GlassEyes {
         private int endToken = 0;
         private int at = 0;
         private int lastName = LAST_SEES_NAME;
-        private Script script = null;
+        private Script script = new Script();
 
         void begin(byte[] tape, int length, Script into) {
             flaw = 0;

@@ -93,17 +93,15 @@ public final class FaceTest {
                 .replaceAll("\"[^\"\n]*\"", "\"\"");
         Matcher word = Pattern.compile("\\b(throw|throws|try|catch|synchronized|assert|package|System\\.(?!arraycopy)\\w+"
                 + "|Exact|native|volatile|Object|hashCode|toString|Thread|Random)\\b|->|::").matcher(bare);
-        check(!word.find(), "no word that LANGUAGE.md rules out" + (bare.isEmpty() ? "" : where(word)));
+        while (word.find()) {
+            check(false, "no " + word.group());
+        }
         Matcher imports = Pattern.compile("import ([^;]*);").matcher(bare);
         while (imports.find()) {
             check(imports.group(1).equals("java.util.Arrays"), "an import of " + imports.group(1));
         }
         check(!Pattern.compile("\"\"\\s*\\+|\\+\\s*\"\"").matcher(bare).find(), "texts are not joined by +");
         checkLengths(source.split("\n"));
-    }
-
-    private static String where(Matcher m) {
-        return m.reset().find() ? ": " + m.group() : "";
     }
 
     /** A method begins at a line that ends in ") {" at the depth of members, and ends at the same depth. */

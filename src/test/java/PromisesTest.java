@@ -196,6 +196,10 @@ public final class PromisesTest {
         feedAll(g, "polish 1;   ");
         due("5: first bytes", g.end(9), 9);
         due("5: are the text", g.text(), 0);
+        feedAll(g, "polish 12;");
+        g.end(8);
+        g.text();
+        due("5: what stood behind is no part of it", g.fault(0) * 100 + g.fault(1), 108);
     }
 
     private static void promise6() {
@@ -213,7 +217,14 @@ public final class PromisesTest {
         due("6: the tape stays", g.about(8), 6);
         due("6: it was not read", g.fault(0), 0);
         due("6: four", g.about(4), 4);
-        due("6: nor behind any", new GlassEyes(1).about(4), 0);
+        GlassEyes often = new GlassEyes(1);
+        for (int i = 0; i < 12; i++) {
+            due("6: faults leave nothing behind", read(often, "rubs 0" + times(70, "+1") + ";x"), -1);
+        }
+        often.eye(0, false);
+        due("6: a long one", read(often, "rubs 0" + times(70, "+1") + ";"), 0);
+        often.by(0);
+        due("6: is whole", often.of(0, 8), 70);
     }
 
     private static void promise7() {
@@ -1015,7 +1026,15 @@ public final class PromisesTest {
         bad("7", 1, 0);
         bad("99999", 1, 0);
         bad("Polish 1;", 1, 0);
-        bad("polishes 1;", 1, 0);
+        for (String letter : new String[] {"a", "z", "A", "Z"}) {
+            bad("polish" + letter + " 1;", 1, 0);
+            bad(letter + "polish 1;", 1, 0);
+        }
+        for (String sign : new String[] {"`", "{", "@", "["}) {
+            bad("polish" + sign + " 1;", 1, 6);
+        }
+        bad("polish 1/", 1, 8);
+        bad("polish 1:", 1, 8);
         bad("polish1 ;x", 1, 9);
         bad("polish;", 1, 6);
         bad("polish 1", 1, 8);
