@@ -1187,18 +1187,13 @@ public final class GlassEyes {
                 fail(CANT_STAND);
             } else if (open >= MOST_OPEN) {
                 fail(TOO_DEEP);
-            } else {
+            } else if (token == OPEN) {
                 at++;
-                readOpened(token, open + 1);
-            }
-        }
-
-        private void readOpened(int token, int open) {
-            if (token == OPEN) {
-                readSum(open);
+                readSum(open + 1);
                 take(CLOSE);
             } else {
-                readOne(open);
+                at++;
+                readOne(open + 1);
                 script.addSign(NEGATE);
             }
         }
