@@ -1,98 +1,5 @@
 /** Each promise of the document in turn: ordinary inputs, the edges that it names, wrong inputs. */
-public final class PromisesTest {
-    private static final int FAR = Integer.MAX_VALUE;
-    private static final int DEEP = Integer.MIN_VALUE;
-
-    private static int wrong = 0;
-    private static int done = 0;
-
-    private static void due(String what, int got, int want) {
-        done++;
-        if (got != want) {
-            wrong++;
-            System.out.println(what + ": answered " + got + ", due is " + want);
-        }
-    }
-
-    private static void due(String what, boolean got, boolean want) {
-        due(what, got ? 1 : 0, want ? 1 : 0);
-    }
-
-    // ---- helpers
-
-    private static void feedAll(GlassEyes g, String source) {
-        g.end(0);
-        for (int i = 0; i < source.length(); i += 20) {
-            int[] words = new int[5];
-            for (int k = 0; k < 20; k++) {
-                int sign = i + k < source.length() ? source.charAt(i + k) : 0;
-                words[k / 4] |= sign << 24 - 8 * (k % 4);
-            }
-            g.feed(words[0], words[1], words[2], words[3], words[4]);
-        }
-        g.end(source.length());
-    }
-
-    private static int read(GlassEyes g, String source) {
-        feedAll(g, source);
-        return g.text();
-    }
-
-    private static void good(String source) {
-        GlassEyes g = new GlassEyes(1);
-        due("text of: " + source, read(g, source), 0);
-        due("fault(0) of: " + source, g.fault(0), 0);
-        due("fault(1) of: " + source, g.fault(1), GlassEyes.NONE);
-    }
-
-    private static void bad(String source, int what, int place) {
-        GlassEyes g = new GlassEyes(1);
-        due("text of: " + source, read(g, source), GlassEyes.NONE);
-        due("fault(0) of: " + source, g.fault(0), what);
-        due("fault(1) of: " + source, g.fault(1), place);
-        due("texts behind: " + source, g.about(4), 0);
-    }
-
-    private static String times(int n, String part) {
-        return part.repeat(n);
-    }
-
-    /** So many courtiers, things (kind: number mod 4) and eyes (colour: number mod 4, none chipped). */
-    private static GlassEyes court(int courtiers, int things, int eyes) {
-        GlassEyes g = new GlassEyes(courtiers);
-        for (int i = 0; i < things; i++) {
-            g.thing(i % 4);
-        }
-        for (int i = 0; i < eyes; i++) {
-            g.eye(i % 4, false);
-        }
-        return g;
-    }
-
-    private static void knows(String what, GlassEyes g, int eye, int... things) {
-        for (int place = 0; place < 4; place++) {
-            due(what + ", eye " + eye + " place " + place, g.of(eye, place), place < things.length ? things[place] : -1);
-        }
-    }
-
-    /** What a sum is, as the RUBS of an eye 0 .. 99, by a text that rules. */
-    private static int rubs(String sum) {
-        GlassEyes g = court(1, 0, 1);
-        if (read(g, "rubs " + sum + ";") != 0 || !g.by(0)) {
-            return -99;
-        }
-        return g.of(0, 8);
-    }
-
-    /** Whether an eye sees a touch by a condition. */
-    private static int sees(String either) {
-        GlassEyes g = court(1, 1, 1);
-        if (read(g, "sees " + either + ";") != 0 || !g.by(0) || !g.put(0, 0)) {
-            return -99;
-        }
-        return g.touch(0, 0);
-    }
-
+public final class PromisesTest extends Bench {
     // ---- the promises
 
     private static void promise1() {
@@ -299,9 +206,7 @@ public final class PromisesTest {
             due("9: others " + o[0] + " " + o[1], g.touch(o[0], o[1]), -1);
         }
         due("9: the hour", g.about(3), 7);
-        for (int i = 7; i < 999; i++) {
-            g.touch(0, 1);
-        }
+        touchTill(g, 999, 0, 1);
         due("9: hour 999", g.about(3), 999);
         due("9: at 999", g.touch(0, 1), -1);
         due("9: hour stays", g.about(3), 999);
@@ -630,9 +535,7 @@ public final class PromisesTest {
         GlassEyes late = court(1, 2, 1);
         read(late, "touch 0 by 0; touch 0 by 0; put 0 on 0; drawer 0; put 0 on 0;touch 1 by 0;");
         late.put(0, 0);
-        for (int i = 0; i < 997; i++) {
-            late.touch(1, 0);
-        }
+        touchTill(late, 997, 1, 0);
         due("17: up to 999", late.told(0, 0, 0) * 100 + late.told(0, 0, 1) * 10 + late.told(0, 0, 2), 1);
     }
 
@@ -821,9 +724,7 @@ public final class PromisesTest {
         GlassEyes full = court(6, 8, 1);
         due("21: all rows", full.how(0, 3, -1), 110592);
         GlassEyes late = court(1, 1, 1);
-        for (int i = 0; i < 997; i++) {
-            late.touch(0, 0);
-        }
+        touchTill(late, 997, 0, 0);
         due("21: to 999", late.how(0, 2, -1), 1);
         due("21: not beyond", late.how(0, 3, -1), 0);
         due("21: nor sure", late.how(0, 3, -2), 0);
@@ -1234,9 +1135,6 @@ public final class PromisesTest {
         badTexts();
         values();
         names();
-        System.out.println(done + " answers, " + wrong + " not as due");
-        if (wrong != 0) {
-            System.exit(1);
-        }
+        finish();
     }
 }
