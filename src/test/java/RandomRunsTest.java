@@ -2,8 +2,14 @@ import java.util.ArrayList;
 import java.util.List;
 import java.util.Random;
 
-/** Runs of calls drawn by fixed seeds, each answer compared with the Oracle's. */
+/** Runs of calls drawn by fixed seeds, each answer compared with the Oracle's, as far as the document promises any. */
 public final class RandomRunsTest {
+    private static final int MOST_CALLS = 512;
+    // What one draw of step, ask or lookAtAll takes at most.
+    private static final int CALLS_OF_STEP = 30;
+    private static final int CALLS_OF_ASK = 40;
+    private static final int CALLS_OF_LOOK = 150;
+
     private static int wrong = 0;
     private static long calls = 0;
     private static final List<String> LOG = new ArrayList<>();
@@ -12,6 +18,7 @@ public final class RandomRunsTest {
     private final GlassEyes eyes;
     private final Oracle oracle;
     private final int seed;
+    private int callsOfRun = 0;
     private boolean bad = false;
 
     private RandomRunsTest(int seed) {
@@ -29,7 +36,11 @@ public final class RandomRunsTest {
 
     private void same(String call, int got, int want) {
         calls++;
+        callsOfRun++;
         LOG.add(call + " = " + got);
+        if (callsOfRun > MOST_CALLS) {
+            throw new IllegalStateException("seed " + seed + ": nothing is promised of the call " + callsOfRun);
+        }
         if (got != want && !bad) {
             bad = true;
             wrong++;
@@ -42,6 +53,11 @@ public final class RandomRunsTest {
 
     private static int bit(boolean b) {
         return b ? 1 : 0;
+    }
+
+    /** Whether a draw of so many calls may come, so that all can be looked at once more behind it. */
+    private boolean mayCome(int many) {
+        return !bad && callsOfRun + many + CALLS_OF_LOOK <= MOST_CALLS;
     }
 
     /** Mostly within 0 .. most, now and then a little or far outside. */
@@ -107,7 +123,7 @@ public final class RandomRunsTest {
     private void step() {
         int a;
         int b;
-        switch (random.nextInt(30)) {
+        switch (random.nextInt(29)) {
             case 0: a = near(3); same("thing(" + a + ")", eyes.thing(a), oracle.thing(a)); break;
             case 1: a = near(3); boolean chip = random.nextBoolean();
                 same("eye(" + a + ", " + chip + ")", eyes.eye(a, chip), oracle.eye(a, chip)); break;
@@ -135,12 +151,7 @@ public final class RandomRunsTest {
             case 25: showWhatIsKnown(); break;
             case 26: if (random.nextInt(3) == 0) { same("image()", eyes.image(), oracle.image()); } break;
             case 27: if (random.nextInt(3) == 0) { same("back()", eyes.back(), oracle.back()); } break;
-            case 28: tape(); break;
-            default: for (int i = random.nextInt(60) == 0 ? 990 : 0; i > 0; i--) {
-                    a = random.nextInt(8); b = random.nextInt(6);
-                    same("touch(" + a + ", " + b + ")", eyes.touch(a, b), oracle.touch(a, b));
-                }
-                break;
+            default: tape(); break;
         }
     }
 
@@ -202,7 +213,19 @@ public final class RandomRunsTest {
         }
     }
 
-    private void run(int length) {
+    /** By a text of 24 touches, since there are fewer calls than hours. */
+    private void goToALateHour() {
+        int hour = 960 + random.nextInt(40);
+        int thing = random.nextInt(Math.max(1, oracle.about(1)));
+        int who = random.nextInt(oracle.courtiers);
+        int text = oracle.about(4);
+        feedText(("touch" + thing + "by" + who + ";").repeat(24));
+        for (int i = 0; i < 42 && oracle.about(3) < hour; i++) {
+            same("played(" + text + ")", eyes.played(text), oracle.played(text));
+        }
+    }
+
+    private void run() {
         for (int i = random.nextInt(9); i > 0; i--) {
             int kind = random.nextInt(4);
             same("thing(" + kind + ")", eyes.thing(kind), oracle.thing(kind));
@@ -212,28 +235,33 @@ public final class RandomRunsTest {
             boolean chip = random.nextBoolean();
             same("eye(" + colour + ", " + chip + ")", eyes.eye(colour, chip), oracle.eye(colour, chip));
         }
+        if (seed % 10 == 0) {
+            goToALateHour();
+        }
         for (int i = 0; i < 3 && seed % 5 != 0; i++) {
             feedText(new Texts(random, oracle).good());
         }
         if (seed % 3 != 0) {
             same("image()", eyes.image(), oracle.image());
         }
-        for (int i = 0; i < length && !bad; i++) {
+        while (mayCome(CALLS_OF_STEP)) {
             step();
-            if (random.nextInt(8) == 0) {
+            if (random.nextInt(40) == 0 && mayCome(CALLS_OF_LOOK)) {
                 lookAtAll();
             }
-            if (random.nextInt(8) == 0) {
+            if (random.nextInt(12) == 0 && mayCome(CALLS_OF_ASK)) {
                 ask();
             }
         }
-        lookAtAll();
+        if (!bad) {
+            lookAtAll();
+        }
     }
 
     public static void main(String[] args) {
-        int runs = args.length > 0 ? Integer.parseInt(args[0]) : 600;
+        int runs = args.length > 0 ? Integer.parseInt(args[0]) : 3000;
         for (int seed = 1; seed <= runs && wrong < 5; seed++) {
-            new RandomRunsTest(seed).run(120);
+            new RandomRunsTest(seed).run();
         }
         System.out.println(runs + " runs, " + calls + " calls, " + wrong + " runs with a wrong answer");
         if (wrong != 0) {
